@@ -34,6 +34,7 @@ public final class FromTheMiddle {
     private static final int FARTHEST_FROM = 4000;
     private static final int WIDEST_THING = 999;
     private static final int NEAR = 10;
+    private static final int FAR = 1000000;
 
     private static final int BROKEN = 0;
     private static final int HARM = 1;
@@ -552,7 +553,7 @@ public final class FromTheMiddle {
         return b == 0 ? 0 : a % b;
     }
 
-    private static int held(int v, int least, int most) {
+    private static int within(int v, int least, int most) {
         return Math.max(least, Math.min(most, v));
     }
 
@@ -696,9 +697,9 @@ public final class FromTheMiddle {
         boolean told = text.size() > 0;
         int made = told ? reckoner.value(text, a, b, c) : a;
         if (use == HARM) {
-            return held(made, -99, 99);
+            return within(made, -99, 99);
         }
-        return held(told ? made : made / 3, 0, 99);
+        return within(told ? made : made / 3, 0, 99);
     }
 
     // ---- draws
@@ -919,12 +920,12 @@ public final class FromTheMiddle {
         // Of the places at which pieces begin or end only the two around the one that is asked can be nearest.
 
         private int gapOfBeginnings(int ahead, int place) {
-            int near = ahead > 0 ? place - beginning(ahead - 1) : Integer.MAX_VALUE;
+            int near = ahead > 0 ? place - beginning(ahead - 1) : FAR;
             return ahead < pieces ? Math.min(near, beginning(ahead) - place) : near;
         }
 
         private int gapOfEndings(int ahead, int place) {
-            int near = ahead > 0 ? place - ending(ahead - 1) : Integer.MAX_VALUE;
+            int near = ahead > 0 ? place - ending(ahead - 1) : FAR;
             return ahead < pieces ? Math.min(near, ending(ahead) - place) : near;
         }
     }
