@@ -881,11 +881,11 @@ public final class FromTheMiddle {
         /** Sees the JOINTS, the GAP, what TOUCHES and what HIDES of a THING on the row. */
         void look(int from, int to) {
             int last = pieces - 1;
-            int beginAhead = from > 0 ? 1 + Math.min(last, behindFirstAheadOf(from)) : 0;
-            joints = Math.min(last, behindFirstAheadOf(to + joint + 1)) - Math.min(last, behindFirstAheadOf(from));
+            int aheadOfFrom = Math.min(last, behindFirstAheadOf(from));
+            joints = Math.min(last, behindFirstAheadOf(to + joint + 1)) - aheadOfFrom;
             touches = Math.max(0, 1 + Math.min(last, behindFirstAheadOf(to)) - endingNotBehind(from));
             hides = ofEdges(isHidden(0, from, to), isHidden(last, from, to));
-            gap = Math.min(gapOfBeginnings(beginAhead, from), gapOfEndings(endingNotBehind(to), to));
+            gap = Math.min(gapOfBeginnings(1 + aheadOfFrom, from), gapOfEndings(endingNotBehind(to), to));
         }
 
         private int ofEdges(boolean first, boolean last) {
@@ -917,10 +917,11 @@ public final class FromTheMiddle {
             return place < first ? 0 : 1 + quotient(place - first, tile + joint);
         }
 
-        // Of the places at which pieces begin or end only the two around the one that is asked can be nearest.
+        // Of the places at which pieces begin or end only the two around the one that is asked can be nearest;
+        // at 0, where nothing is ahead, the first piece begins.
 
         private int gapOfBeginnings(int ahead, int place) {
-            int near = ahead > 0 ? place - beginning(ahead - 1) : FAR;
+            int near = place - beginning(ahead - 1);
             return ahead < pieces ? Math.min(near, beginning(ahead) - place) : near;
         }
 
