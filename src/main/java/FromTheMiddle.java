@@ -380,7 +380,7 @@ public final class FromTheMiddle {
             return error(BEYOND);
         }
         changed.bits = bits;
-        changed.numbers.fillWithZeros(bits == 0 ? 0 : n);
+        changed.numbers.fillWithZeros(n);
         return 1;
     }
 
@@ -883,7 +883,7 @@ public final class FromTheMiddle {
             int last = pieces - 1;
             int aheadOfFrom = Math.min(last, behindFirstAheadOf(from));
             joints = Math.min(last, behindFirstAheadOf(to + joint + 1)) - aheadOfFrom;
-            touches = Math.max(0, 1 + Math.min(last, behindFirstAheadOf(to)) - endingNotBehind(from));
+            touches = 1 + Math.min(last, behindFirstAheadOf(to)) - endingNotBehind(from);
             hides = ofEdges(isHidden(0, from, to), isHidden(last, from, to));
             gap = Math.min(gapOfBeginnings(1 + aheadOfFrom, from), gapOfEndings(endingNotBehind(to), to));
         }
@@ -996,7 +996,6 @@ public final class FromTheMiddle {
             }
             int name = names.indexOf((char) sign);
             codes.add(-1 - name);
-            digits = 0;
             return name >= 0;
         }
 

@@ -6,15 +6,23 @@ final class Checks {
     static final int FULL = -1000000004;
     static final int KIND = -1000000005;
     static final int PARTED = -1000000006;
+    static final int MIN = Integer.MIN_VALUE;
+    static final int MAX = Integer.MAX_VALUE;
 
+    private String sentence = "";
     private int asked;
     private int wrong;
+
+    /** The document's sentence that the answers asked from now on would break. */
+    void says(String sentence) {
+        this.sentence = "\"" + sentence + "\": ";
+    }
 
     void due(String call, long got, long want) {
         asked++;
         if (got != want) {
             wrong++;
-            System.out.println(call + " answered " + got + ", due is " + want);
+            System.out.println(sentence + call + " answered " + got + ", due is " + want);
         }
     }
 
@@ -41,5 +49,14 @@ final class Checks {
     static int text(FromTheMiddle x, int use, String text) {
         feed(x, text);
         return x.text(use);
+    }
+
+    /** A new object with another LENGTH, TILE (START, too) and JOINT. */
+    static FromTheMiddle wall(int length, int tile, int joint) {
+        FromTheMiddle x = new FromTheMiddle();
+        x.wall(0, length);
+        x.wall(1, tile);
+        x.wall(2, joint);
+        return x;
     }
 }
