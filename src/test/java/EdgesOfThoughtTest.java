@@ -87,7 +87,7 @@ public final class EdgesOfThoughtTest {
         first.hang(0, 2);
         calm(first, 2, 0);
         FromTheMiddle two = wall(300, 100, 0);
-        // a JOINT at 30, 130, 230 or at 70, 170, 270: one THING is for 30, two are for 70
+        // START 29 and 30 have a JOINT at one THING, 69 to 71 at the two others; then HARM of the first is made more
         two.thing(0, 29, 1);
         two.thing(0, 169, 2);
         two.thing(0, 69, 2);
