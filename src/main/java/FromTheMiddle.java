@@ -419,17 +419,17 @@ public final class FromTheMiddle {
     }
 
     public int places(int sheet) {
-        Sheet told = sheetAt(sheet);
-        if (told == null) {
+        Sheet froms = sheetAt(sheet);
+        if (froms == null) {
             return error(BEYOND);
         }
-        if (told.isMissing()) {
+        if (froms.isMissing()) {
             return error(NONE);
         }
-        int most = Math.min(told.numbers.size(), now.froms.size());
+        int most = Math.min(froms.numbers.size(), now.froms.size());
         int placed = 0;
-        while (placed < most && isFrom(told.numbers.get(placed))) {
-            now.froms.set(placed, told.numbers.get(placed));
+        while (placed < most && isFrom(froms.numbers.get(placed))) {
+            now.froms.set(placed, froms.numbers.get(placed));
             placed++;
         }
         return placed;
